@@ -154,6 +154,15 @@ public final class DeedsTest {
         c.due("undo(39)", x.undo(39), 1);
         c.due("one more", x.walk(0, 1), 1);
         c.due("and then FULL", x.hour(), FeltCold.FULL);
+        x.undo(39);
+        c.due("one more love", x.love(1, 1), 0);
+        x.undo(39);
+        c.due("one more fire", x.fire(1, 9), 11);
+        x.undo(39);
+        c.due("one more COLD", x.cold(0), 2);
+        x.undo(39);
+        c.due("one more HOUR", x.hour(), 1);
+        c.due("and then FULL again", x.hour(), FeltCold.FULL);
     }
 
     private static void undo() {
@@ -214,6 +223,14 @@ public final class DeedsTest {
         c.due("walked yet", x.count(4), 2);
         c.due("on(2) again", x.on(2), 2);
         c.due("digest() behind on(2) again", x.digest(), kept);
+        x.undo(0);
+        x.love(1, 3);
+        x.fire(2, 1);
+        x.soup();
+        c.due("on(2) from other DEEDS", x.on(2), 2);
+        c.due("digest() behind on(2) from other DEEDS", x.digest(), kept);
+        c.due("undo(1) of the kept DEEDS", x.undo(1), 1);
+        c.due("walked yet, once more", x.count(4), 2);
         c.due("on(0)", x.on(0), 0);
         c.due("count(4) behind on(0)", x.count(4), 0);
         x.soup();

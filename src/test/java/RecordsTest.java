@@ -210,6 +210,12 @@ public final class RecordsTest {
         x.hour();
         c.told("soups(0, 5, 0) with less SOUP", x, x.soups(0, 5, 0), 1, Check.bits(2));
         c.due("soups() serves nothing", x.count(3), 3);
+        x.undo(0);
+        x.love(0, 1);
+        c.told("soups(0, 4, 0), SHIFTED", x, x.soups(0, 4, 0), 0, 0);
+        x.love(0, -1);
+        c.told("soups(0, 4, 1), SHIFTED", x, x.soups(0, 4, 1), 0, 0);
+        c.due("soups(0, 4, 0), SHIFTED", x.soups(0, 4, 0), FeltCold.NONE);
         FeltCold y = Check.town("r1031 a0900");
         y.hour();
         c.told("soups(0, 8, 0) of an OLD one", y, y.soups(0, 8, 0), 1, Check.bits(5));

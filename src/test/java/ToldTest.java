@@ -242,6 +242,8 @@ public final class ToldTest {
         for (int what = 0; what < want.length; what++) {
             c.due("count(" + what + ")", x.count(what), want[what]);
         }
+        c.due("count(7) with the first", Check.town("r1231 s1000 f1500 o1600").count(7), 2);
+        c.due("count(7) of others", Check.town("r1231 o1000 m1500 a1600 t1000").count(7), 0);
         c.due("count(11)", x.count(11), FeltCold.BAD);
         c.due("count(-1)", x.count(-1), FeltCold.BAD);
     }

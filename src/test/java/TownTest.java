@@ -166,6 +166,12 @@ public final class TownTest {
         x.cold(0);
         c.told("member(0, 4) with a COLD", x, x.member(0, 4), 1, 2);
         c.told("member(0, 7) with a COLD", x, x.member(0, 7), 1, 0);
+        x.hour();
+        c.told("member(0, 4) behind an HOUR", x, x.member(0, 4), 1, 1);
+        c.told("member(0, 7) behind an HOUR", x, x.member(0, 7), 1, 0);
+        x.hour();
+        c.told("member(0, 4) behind 2 HOURS", x, x.member(0, 4), 1, 0);
+        c.told("member(0, 7) behind 2 HOURS", x, x.member(0, 7), 1, 1);
         x.love(3, -5);
         c.told("member(3, 5)", x, x.member(3, 5), 1, -5);
         c.told("member(3, 6)", x, x.member(3, 6), 1, 6);
@@ -263,6 +269,10 @@ public final class TownTest {
             c.due("mark(5, 5) at HOUR " + h, x.mark(5, 5), 6 - h % 6);
             c.due("mark(5, 3) at HOUR " + h, x.mark(5, 3), Math.max(0, 2 + (h < 3 ? 1 : 0) - h / 6));
         }
+        FeltCold y = Check.town("r1205r2031 t0700 t2201 t1500 t0800 o1500");
+        c.due("mark(2, 2) beside the first", y.mark(2, 2), 2);
+        c.due("mark(0, 2)", y.mark(0, 2), 2);
+        c.due("mark(1, 2)", y.mark(1, 2), 0);
         c.told("member(5, 6) at HOUR 24", x, x.member(5, 6), 1, 7);
         c.due("mark(4, 3) at HOUR 24", x.mark(4, 3), 2);
     }

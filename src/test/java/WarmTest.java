@@ -119,6 +119,12 @@ public final class WarmTest {
         z.walk(2, 0);
         c.due("send: the first by MEMBERS", z.send(1), 3);
         sent(z, 1, 0, 0, 3);
+        FeltCold v = Check.town("r1231r1531r2011 o2000 o1900 m1801");
+        c.due("send: the nearest", v.send(2), 1);
+        sent(v, 2, 0, 0, 2);
+        v.cold(2);
+        c.due("send: none with a COLD", v.send(2), 2);
+        sent(v, 2, 2, 0, 1);
         FeltCold w = Check.town("r1007r0531 o1000 s1600 s1601");
         c.due("send: with one who is there", w.send(1), 0);
         w.walk(1, 1);
