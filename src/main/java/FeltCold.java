@@ -51,14 +51,9 @@ public final class FeltCold {
     }
 
     public int lay(int r, int i, int v) {
-        if (!isRow(r)) {
-            return BAD;
-        }
-        if (rows.isMissing(r)) {
-            return find(NOTHING);
-        }
-        if (!rows.has(r, i)) {
-            return find(BEYOND);
+        int refused = refusedPlace(r, i);
+        if (refused != 0) {
+            return refused;
         }
         told = rows.get(r, i);
         rows.set(r, i, v);
@@ -66,25 +61,18 @@ public final class FeltCold {
     }
 
     public int at(int r, int i) {
-        if (!isRow(r)) {
-            return BAD;
-        }
-        if (rows.isMissing(r)) {
-            return find(NOTHING);
-        }
-        if (!rows.has(r, i)) {
-            return find(BEYOND);
+        int refused = refusedPlace(r, i);
+        if (refused != 0) {
+            return refused;
         }
         told = rows.get(r, i);
         return 1;
     }
 
     public int tear(int r) {
-        if (!isRow(r)) {
-            return BAD;
-        }
-        if (rows.isMissing(r)) {
-            return find(NOTHING);
+        int refused = refusedRow(r);
+        if (refused != 0) {
+            return refused;
         }
         rows.remove(r);
         return 1;
@@ -108,11 +96,9 @@ public final class FeltCold {
     }
 
     public int mean(int r) {
-        if (!isRow(r)) {
-            return BAD;
-        }
-        if (rows.isMissing(r)) {
-            return find(NOTHING);
+        int refused = refusedRow(r);
+        if (refused != 0) {
+            return refused;
         }
         int size = rows.sizeOf(r);
         if (size == 0) {
@@ -134,11 +120,9 @@ public final class FeltCold {
     }
 
     public int put(int t, int i, int v) {
-        if (!isText(t)) {
-            return BAD;
-        }
-        if (texts.isMissing(t)) {
-            return find(NOTHING);
+        int refused = refusedText(t);
+        if (refused != 0) {
+            return refused;
         }
         if (!texts.has(t, i)) {
             return find(BEYOND);
@@ -149,21 +133,17 @@ public final class FeltCold {
     }
 
     public int fault(int t) {
-        if (!isText(t)) {
-            return BAD;
-        }
-        if (texts.isMissing(t)) {
-            return find(NOTHING);
+        int refused = refusedText(t);
+        if (refused != 0) {
+            return refused;
         }
         return reader.read(texts, t);
     }
 
     public int town(int t) {
-        if (!isText(t)) {
-            return BAD;
-        }
-        if (texts.isMissing(t)) {
-            return find(NOTHING);
+        int refused = refusedText(t);
+        if (refused != 0) {
+            return refused;
         }
         if (reader.read(texts, t) != NONE) {
             return STATE;
@@ -235,11 +215,9 @@ public final class FeltCold {
     }
 
     public int hour() {
-        if (town.isEmpty()) {
-            return STATE;
-        }
-        if (deeds.left() < 1) {
-            return FULL;
+        int refused = refusedDeed();
+        if (refused != 0) {
+            return refused;
         }
         int caught = town.catchers(town.coldOf);
         deeds.carryOut(town, PASSING, 0, 0);
@@ -247,11 +225,9 @@ public final class FeltCold {
     }
 
     public int soup() {
-        if (town.isEmpty()) {
-            return STATE;
-        }
-        if (deeds.left() < 1) {
-            return FULL;
+        int refused = refusedDeed();
+        if (refused != 0) {
+            return refused;
         }
         deeds.carryOut(town, SERVING, 0, 0);
         return town.doers();
@@ -553,19 +529,11 @@ public final class FeltCold {
     // ---- 8 chances, lots
 
     public int odds(int r, int p) {
-        if (!isRoom(r) || p < 0 || p > TWELVE) {
-            return BAD;
-        }
-        chances.weigh(town, r, p, false);
-        return 1;
+        return weighed(r, p, false);
     }
 
     public int mid(int r, int p) {
-        if (!isRoom(r) || p < 0 || p > TWELVE) {
-            return BAD;
-        }
-        chances.weigh(town, r, p, true);
-        return 1;
+        return weighed(r, p, true);
     }
 
     public int lots(int n, int seed) {
@@ -730,6 +698,39 @@ public final class FeltCold {
         }
     }
 
+    /** 0, or what a ROW that has to be there is refused by. */
+    private int refusedRow(int r) {
+        if (!isRow(r)) {
+            return BAD;
+        }
+        return rows.isMissing(r) ? find(NOTHING) : 0;
+    }
+
+    /** 0, or what a place of a ROW is refused by. */
+    private int refusedPlace(int r, int i) {
+        int refused = refusedRow(r);
+        if (refused != 0) {
+            return refused;
+        }
+        return rows.has(r, i) ? 0 : find(BEYOND);
+    }
+
+    /** 0, or what a TEXT that has to be there is refused by. */
+    private int refusedText(int t) {
+        if (!isText(t)) {
+            return BAD;
+        }
+        return texts.isMissing(t) ? find(NOTHING) : 0;
+    }
+
+    /** 0, or what a DEED of the whole TOWN is refused by. */
+    private int refusedDeed() {
+        if (town.isEmpty()) {
+            return STATE;
+        }
+        return deeds.left() < 1 ? FULL : 0;
+    }
+
     /** 0, or what a ROW of pairs of MEMBERS is refused by. */
     private int refusedRecord(int r) {
         if (!isRow(r)) {
@@ -775,6 +776,14 @@ public final class FeltCold {
             agrees = agrees && (does >> rows.get(r, k) & 1) == rows.get(r, k + 1);
         }
         return agrees;
+    }
+
+    private int weighed(int r, int p, boolean mean) {
+        if (!isRoom(r) || p < 0 || p > TWELVE) {
+            return BAD;
+        }
+        chances.weigh(town, r, p, mean);
+        return 1;
     }
 
     private void carryOutLot(long lot) {
