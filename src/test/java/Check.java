@@ -1,14 +1,32 @@
 /** What all tests use: compares answers, writes TEXTS, ends with exit code 1 if an answer was wrong. */
-final class Check {
+class Check {
+    private final String ahead;
     private int wrong = 0;
     private int asked = 0;
+
+    Check() {
+        this("");
+    }
+
+    /** What stands ahead of each wrong answer. */
+    Check(String ahead) {
+        this.ahead = ahead;
+    }
 
     void due(String call, long got, long want) {
         asked++;
         if (got != want) {
             wrong++;
-            System.out.println(call + " answered " + got + ", due is " + want);
+            System.out.println(ahead + call + " answered " + got + ", due is " + want);
         }
+    }
+
+    int asked() {
+        return asked;
+    }
+
+    int wrong() {
+        return wrong;
     }
 
     /** An answer, and what asked() tells behind it. */
