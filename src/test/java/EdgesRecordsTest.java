@@ -588,6 +588,16 @@ public final class EdgesRecordsTest {
         c.told("soups(1, 1, 0)", x, x.soups(1, 1, 0), 1, 1);
     }
 
+    private static void p38_soups_shiftAtItsEnds(Case c) {
+        FeltCold x = Check.town("r1531o1000o2000");
+        x.love(0, 5);
+        x.love(1, -5);
+        for (int i = 0; i < 2; i++) {
+            c.told("soups(" + i + ", 4, 0)", x, x.soups(i, 4, 0), 2, 3);
+            c.told("soups(" + i + ", 4, 1)", x, x.soups(i, 4, 1), 0, 0);
+        }
+    }
+
     private static void p38_soups_twinByBothEnds(Case c) {
         FeltCold x = Check.town("r1531t1410t1400");
         c.told("soups(0, 8, 1)", x, x.soups(0, 8, 1), 0, 0);
