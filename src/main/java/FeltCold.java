@@ -613,27 +613,6 @@ public final class FeltCold {
         for (int what = 0; what <= 10; what++) {
             h = 31 * h + count(what);
         }
-        h = digestTown(h);
-        for (int k = 0; k < KEPT; k++) {
-            h = 31 * h + deeds.keptNumber[k];
-        }
-        for (int r = 0; r < ROWS; r++) {
-            h = 31 * h + rows.sizeOf(r);
-            for (int i = 0; i < rows.sizeOf(r); i++) {
-                h = 31 * h + rows.get(r, i);
-            }
-        }
-        for (int t = 0; t < TEXTS; t++) {
-            h = 31 * h + texts.sizeOf(t);
-            for (int i = 0; i < texts.sizeOf(t); i++) {
-                h = 31 * h + texts.get(t, i);
-            }
-        }
-        return h;
-    }
-
-    private long digestTown(long before) {
-        long h = before;
         for (int r = 0; r < town.rooms(); r++) {
             for (int what = 0; what <= 3; what++) {
                 h = 31 * h + room(r, what);
@@ -642,6 +621,31 @@ public final class FeltCold {
         for (int i = 0; i < town.members(); i++) {
             for (int what = 0; what <= 7; what++) {
                 h = 31 * h + ofMember(i, what);
+            }
+        }
+        for (int k = 0; k < KEPT; k++) {
+            h = 31 * h + deeds.keptNumber[k];
+        }
+        return digestTexts(digestRows(h));
+    }
+
+    private long digestRows(long before) {
+        long h = before;
+        for (int r = 0; r < ROWS; r++) {
+            h = 31 * h + rows.sizeOf(r);
+            for (int i = 0; i < rows.sizeOf(r); i++) {
+                h = 31 * h + rows.get(r, i);
+            }
+        }
+        return h;
+    }
+
+    private long digestTexts(long before) {
+        long h = before;
+        for (int t = 0; t < TEXTS; t++) {
+            h = 31 * h + texts.sizeOf(t);
+            for (int i = 0; i < texts.sizeOf(t); i++) {
+                h = 31 * h + texts.get(t, i);
             }
         }
         return h;
@@ -1204,7 +1208,7 @@ public final class FeltCold {
             if (soup > 0) {
                 felt++;
             }
-            if (isOfKind(kind, MARRIED)) {
+            if (kind == MARRIED || kind == OLD) {
                 felt += 2;
             }
             if (kind == OLD) {
@@ -1213,26 +1217,22 @@ public final class FeltCold {
             return felt;
         }
 
-        /** The DEGREES from one on. */
-        private static int upFrom(int least) {
-            if (least > MOST_DEGREE) {
-                return 0;
-            }
-            return ALL_DEGREES << Math.max(0, least) & ALL_DEGREES;
-        }
-
         /** The DEGREES at which one of a KIND who FEELS so DOES it, COLD aside. */
         private static int doingBy(int kind, int felt, int width) {
-            switch (kind) {
-                case SNEEZER:
-                    return ~upFrom(felt + 1) & ALL_DEGREES;
-                case FEVERISH:
-                    return upFrom(felt + 1);
-                case TWIN:
-                    return upFrom(felt) & ~upFrom(felt + width + 1);
-                default:
-                    return upFrom(felt);
+            int least = felt;
+            int most = MOST_DEGREE;
+            if (kind == SNEEZER) {
+                least = 0;
+                most = felt;
+            } else if (kind == FEVERISH) {
+                least = felt + 1;
+            } else if (kind == TWIN) {
+                most = felt + width;
             }
+            // What one FEELS may lie outside of all DEGREES.
+            least = least < 0 ? 0 : least;
+            most = most > MOST_DEGREE ? MOST_DEGREE : most;
+            return least > most ? 0 : ALL_DEGREES << least & ALL_DEGREES >> (MOST_DEGREE - most);
         }
 
         /** The DEGREES at which a MEMBER would DO it, COLD aside, were he of a KIND and SHIFTED so. */
@@ -1247,7 +1247,7 @@ public final class FeltCold {
 
         /** The DEGREES at which a MEMBER DOES it. */
         int does(int i) {
-            return coldOf[i] > 0 ? 0 : would(i);
+            return coldOf[i] > 0 ? 0 : wouldAs(i, kindOf(i), shiftOf[i]);
         }
 
         int doesNow(int i) {
